@@ -1,10 +1,13 @@
 import java.util.NoSuchElementException;
+import java.util.Random;
 
 /** Promises 33 to 45: the heap, days and accounts. */
 public final class HeapAndAccountTest {
     public static void main(String[] args) {
         promises33To36Heap();
         heapOrder();
+        heapOrderOfTwenty();
+        heapOrderAfterUndo();
         promises37And38Days();
         promises39To43Accounts();
         promises44And45Shares();
@@ -50,6 +53,59 @@ public final class HeapAndAccountTest {
             Check.due("compost", d.compost(), lots[lot][0]);
         }
         Check.due("empty", d.heapSize(), 0);
+    }
+
+    private static void heapOrderOfTwenty() {
+        for (int seed = 0; seed < 60; seed++) {
+            Random random = new Random(seed);
+            PromiseDepot d = new PromiseDepot();
+            d.addShelf(0, 40);
+            for (int lot = 0; lot < 20; lot++) {
+                d.receive(0, 1 + random.nextInt(seed % 2 == 0 ? 3 : 5), 0, random.nextInt(3));
+                if (lot % 8 == 7 || lot == 19) {
+                    recallAllFrom(d, random.nextInt(8));
+                }
+            }
+            Check.due("twenty on the heap", d.heapSize(), 20);
+            for (int left = 20; left > 0; left--) {
+                int lot = d.nextCompostByScan();
+                int volume = d.volumeOf(lot);
+                Check.due("top with " + left, d.nextCompost(), lot);
+                Check.due("volume with " + left, d.compost(), volume);
+                Check.due("gone with " + left, d.volumeOf(lot), 0);
+            }
+        }
+    }
+
+    private static void recallAllFrom(PromiseDepot d, int turn) {
+        int lots = d.lotCount();
+        for (int i = 0; i < lots; i++) {
+            d.recall((i * 7 + turn) % lots);
+        }
+        for (int lot = 0; lot < lots; lot++) {
+            d.recall(lot);
+        }
+    }
+
+    private static void heapOrderAfterUndo() {
+        PromiseDepot d = new PromiseDepot();
+        d.addShelf(0, 40);
+        for (int lot = 0; lot < 4; lot++) {
+            d.receive(0, 5 + lot, 0, 1);
+            d.recall(lot);
+        }
+        d.compost();
+        d.compost();
+        d.receive(0, 6, 0, 0);
+        d.recall(4);
+        Check.due("top", d.nextCompost(), 4);
+        for (int i = 0; i < 4; i++) {
+            d.undo();
+        }
+        for (int lot = 3; lot >= 0; lot--) {
+            Check.due("top after undo", d.nextCompost(), lot);
+            d.compost();
+        }
     }
 
     private static void promises37And38Days() {

@@ -421,6 +421,10 @@ public final class LotTest {
         Check.due("recallSize of one", d.recallSize(1), 1);
         Check.due("available", d.available(4), 14);
         Check.due("available of another kind", d.available(5), 0);
+        d.receive(0, 2, 0, 1);
+        Check.due("available of kind 0", d.available(0), 2);
+        Check.due("firstToShip of kind 0", d.firstToShip(0), 3);
+        d.undo();
         Check.due("firstToShip", d.firstToShip(4), 1);
         d.pass(2);
         Check.due("available without the expired", d.available(4), 9);

@@ -202,6 +202,13 @@ public final class ShelfTest {
         d.receive(0, 7, 2, 1);
         d.receive(0, 5, 2, 1);
         fewest("all four", d, 2, 4);
+        PromiseDepot f = new PromiseDepot();
+        f.addShelf(0, 10);
+        f.addShelf(0, 6);
+        f.receive(0, 6, 0, 1);
+        f.receive(0, 7, 0, 1);
+        Check.due("by search alone", f.fewestShelvesBySearch(0), 2);
+        Check.due("by sets, the second shelf is smaller", f.fewestShelves(0), 2);
         PromiseDepot e = new PromiseDepot();
         for (int i = 0; i < 8; i++) {
             e.addShelf(0, 40 - i);
