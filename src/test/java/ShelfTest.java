@@ -209,6 +209,14 @@ public final class ShelfTest {
         f.receive(0, 7, 0, 1);
         Check.due("by search alone", f.fewestShelvesBySearch(0), 2);
         Check.due("by sets, the second shelf is smaller", f.fewestShelves(0), 2);
+        PromiseDepot g = new PromiseDepot();
+        for (int capacity : new int[] {10, 6, 5}) {
+            g.addShelf(1, capacity);
+        }
+        for (int volume : new int[] {7, 6, 4}) {
+            g.receive(0, volume, 1, 1);
+        }
+        fewest("10 holds 6 and 4, but 6 does not hold 7", g, 1, 3);
         PromiseDepot e = new PromiseDepot();
         for (int i = 0; i < 8; i++) {
             e.addShelf(0, 40 - i);
