@@ -18,6 +18,8 @@ public final class DescentTermsTest {
         aDescendantByTwoWaysCountsOnce();
         noLotIsItsOwnDescendant();
         descendantsAfterAllAreGone();
+        descentOfTwenty();
+        lotsByExpiryAndNumber();
         shippedFromTheLowestExpiryFirst();
         shippedFromTheLowestNumberOfEqualExpiries();
         shippedWholeOrInPart();
@@ -31,6 +33,9 @@ public final class DescentTermsTest {
         compostedByVolumeExpiryAndNumber();
         compostedByTheVolumeThatIsLeft();
         heapOfTwenty();
+        heapOfEightInEveryOrder();
+        heapThatGrowsAndShrinks();
+        heapOfWhichOneSideIsGreater();
         countedNeverFirst();
         countedOnEarlierDaysFirst();
         countedWithMoreLotsFirst();
@@ -219,6 +224,63 @@ public final class DescentTermsTest {
         descendants("gone", d, 2, 1, 0);
         Check.due("still", d.descendsFrom(2, 0), true);
         Check.due("nothing to recall", d.recallSize(0), 0);
+    }
+
+    private static void descentOfTwenty() {
+        Story chain = shelf(0, 40).then(lot(0, 20, 9));
+        for (int lot = 0; lot < 19; lot++) {
+            int last = lot;
+            chain = chain.then(d -> d.split(last, 19 - last)).then(d -> d.recall(last)).then(PromiseDepot::undo).then(d -> d.ship(0, 1));
+        }
+        int[] due = new int[20];
+        for (int lot = 0; lot < 20; lot++) {
+            due[lot] = 19 - lot;
+        }
+        descendants("a chain of twenty", chain.depot(), due);
+        Check.due("the last from the first", chain.depot().descendsFrom(19, 0), true);
+        Check.due("the last from the last but one", chain.depot().descendsFrom(19, 18), true);
+        Check.due("recalled by way of 19 that are gone", chain.depot().recall(0), 1);
+        Check.due("it is the last", chain.then(d -> d.recall(0)).depot().nextCompost(), 19);
+        PromiseDepot d = ends().depot();
+        descendants("the first and the last in one pair", d, 1, 0, 0, 0, 0, 0, 0, 0, 0, 0, 0, 0, 0, 0, 0, 0, 0, 0, 1, 0);
+        Check.due("its line", Check.lineOf(d, 19), "19k0z0v6e9@0<18<0");
+    }
+
+    /** Twenty lots, of which the last is mixed from the first and the last but one, the others being strangers. */
+    private static Story ends() {
+        return shelf(0, 40).then(lot(0, 3, 9)).then(d -> {
+            while (d.lotCount() < 18) {
+                d.receive(1, 2, 0, 9);
+                d.ship(1, 2);
+            }
+            d.receive(0, 3, 0, 9);
+            d.mix(18, 0);
+        });
+    }
+
+    private static void byExpiry(String what, Story story, int... lots) {
+        PromiseDepot d = story.depot();
+        for (int rank = 0; rank < lots.length; rank++) {
+            Check.due(what + ", rank " + rank, d.lotByExpiry(rank), lots[rank]);
+        }
+        Refusal.thrown(what + ", no more ranks", story, NONE, e -> e.lotByExpiry(lots.length));
+    }
+
+    private static void lotsByExpiryAndNumber() {
+        Story falling = shelf(0, 40);
+        Story equal = shelf(0, 40);
+        for (int lot = 0; lot < 8; lot++) {
+            falling = falling.then(lot(lot % 6, 2, 7 - lot));
+            equal = equal.then(lot(lot % 6, 2, 7));
+        }
+        byExpiry("each earlier", falling, 7, 6, 5, 4, 3, 2, 1, 0);
+        byExpiry("all on one day", equal, 0, 1, 2, 3, 4, 5, 6, 7);
+        byExpiry("expired ones too", falling.then(d -> d.pass(5)), 7, 6, 5, 4, 3, 2, 1, 0);
+        byExpiry("not the recalled", falling.then(d -> d.recall(7)).then(d -> d.recall(3)), 6, 5, 4, 2, 1, 0);
+        byExpiry("not the shipped", equal.then(d -> d.ship(0, 3)), 1, 2, 3, 4, 5, 6, 7);
+        byExpiry("a later lot with an earlier day", equal.then(d -> d.ship(0, 4)).then(lot(0, 1, 6)).then(lot(0, 1, 7)), 8, 1, 2, 3, 4, 5, 7, 9);
+        byExpiry("in all zones", shelf(0, 5).then(shelf(1, 5)).then(lot(0, 5, 3)).then(d -> d.receive(0, 5, 1, 2)), 1, 0);
+        byExpiry("none", shelf(0, 40));
     }
 
     private static void shippedFromTheLowestExpiryFirst() {
@@ -431,6 +493,76 @@ public final class DescentTermsTest {
         Check.due("size", heap(equal).depot().heapSize(), 20);
         Check.due("volume", heap(equal).depot().heaped(), 140);
         Refusal.denied("no 21st lot", heap(equal), 1, 20, d -> d.receive(0, 1, 0, 0));
+    }
+
+    private static void heapOfEightInEveryOrder() {
+        inEveryOrder(new int[8], 0, new boolean[8]);
+    }
+
+    /** Recalls eight lots of 1 to 8 in every order, and composts them. */
+    private static void inEveryOrder(int[] order, int chosen, boolean[] taken) {
+        if (chosen == order.length) {
+            PromiseDepot d = shelf(0, 40).depot();
+            for (int lot = 0; lot < order.length; lot++) {
+                d.receive(0, lot + 1, 0, 0);
+            }
+            for (int lot : order) {
+                d.recall(lot);
+            }
+            for (int left = order.length; left > 0; left--) {
+                Check.due("next", d.nextCompost(), left - 1);
+                Check.due("volume", d.compost(), left);
+            }
+        }
+        for (int lot = 0; lot < order.length; lot++) {
+            if (!taken[lot]) {
+                taken[lot] = true;
+                order[chosen] = lot;
+                inEveryOrder(order, chosen + 1, taken);
+                taken[lot] = false;
+            }
+        }
+    }
+
+    /** Twenty lots come to the heap, each by some steps further in volume and expiry, and some are composted between. */
+    private static void heapThatGrowsAndShrinks() {
+        for (int step = 1; step < 40; step++) {
+            for (int between = 0; between < 4; between++) {
+                PromiseDepot d = shelf(0, 40).then(shelf(0, 40)).depot();
+                for (int lot = 0; lot < 20; lot++) {
+                    d.recall(d.receive(0, 1 + lot * step % 37 % 12, 0, lot * step % 41 % 5));
+                    if (lot % 5 >= 5 - between) {
+                        theGreatestIsNext(d);
+                    }
+                }
+                while (d.heapSize() > 0) {
+                    theGreatestIsNext(d);
+                }
+            }
+        }
+    }
+
+    private static void theGreatestIsNext(PromiseDepot d) {
+        int best = d.nextCompostByScan();
+        Check.due("next as by scan", d.nextCompost(), best);
+        int volume = d.volumeOf(best);
+        Check.due("volume", d.compost(), volume);
+        Check.due("it is gone", d.volumeOf(best), 0);
+    }
+
+    /** Cell n of a heap is above the cells 2n + 1 and 2n + 2 alone: what is below other cells must not move there. */
+    private static void heapOfWhichOneSideIsGreater() {
+        int[][] volumes = {{40, 39, 38, 20, 30, 37, 19, 18, 17, 10, 9, 36, 1}, {40, 39, 38, 20, 30, 19, 37, 10, 9, 8, 7, 6, 5, 36, 1}};
+        for (int[] some : volumes) {
+            int[][] lots = new int[some.length][];
+            for (int lot = 0; lot < lots.length; lot++) {
+                lots[lot] = new int[] {some[lot], 0};
+            }
+            PromiseDepot d = heap(lots).depot();
+            for (int left = lots.length; left > 0; left--) {
+                theGreatestIsNext(d);
+            }
+        }
     }
 
     private static void order(String what, Story story, int... shelves) {

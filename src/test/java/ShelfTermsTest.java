@@ -30,6 +30,7 @@ public final class ShelfTermsTest {
         fewestShelvesExactly();
         fewestShelvesWhereTheGreatestFirstIsNotBest();
         fewestShelvesOfEight();
+        fewestShelvesAskedAgain();
         Check.finish("ShelfTermsTest");
     }
 
@@ -472,5 +473,31 @@ public final class ShelfTermsTest {
             int together = 10 / volume;
             fewest("eight of " + volume, eight, 1, (8 + together - 1) / together);
         }
+    }
+
+    private static void fewestShelvesAskedAgain() {
+        PromiseDepot d = new PromiseDepot();
+        for (int shelf = 0; shelf < 8; shelf++) {
+            d.addShelf(shelf < 4 ? 0 : shelf < 7 ? 1 : 2, 10 + shelf);
+        }
+        int[][] lots = {{0, 9}, {0, 9}, {0, 10}, {1, 8}, {1, 9}, {2, 7}, {2, 5}};
+        for (int[] lot : lots) {
+            d.receive(0, lot[1], lot[0], 0);
+        }
+        int[] due = {3, 2, 1};
+        for (int i = 0; i < 30; i++) {
+            int zone = i * 2 % 3;
+            Check.due("zone " + zone + ", by sets", d.fewestShelves(zone), due[zone]);
+            Check.due("zone " + zone + ", by search", d.fewestShelvesBySearch((zone + 1) % 3), due[(zone + 1) % 3]);
+        }
+        d.recall(0);
+        Check.due("by sets, after a recall", d.fewestShelves(0), 2);
+        Check.due("by search, after a recall", d.fewestShelvesBySearch(0), 2);
+        d.recall(1);
+        d.recall(2);
+        Check.due("by sets, when none is left", d.fewestShelves(0), 0);
+        Check.due("by search, when none is left", d.fewestShelvesBySearch(0), 0);
+        Check.due("by sets, of another zone", d.fewestShelves(1), 2);
+        Check.due("by search, of another zone", d.fewestShelvesBySearch(2), 1);
     }
 }
