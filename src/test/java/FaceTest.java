@@ -1,11 +1,18 @@
 import java.io.IOException;
+import java.lang.reflect.Array;
 import java.lang.reflect.Constructor;
 import java.lang.reflect.Field;
 import java.lang.reflect.Method;
 import java.lang.reflect.Modifier;
 import java.nio.file.Files;
 import java.nio.file.Path;
+import java.util.ArrayDeque;
+import java.util.ArrayList;
 import java.util.Arrays;
+import java.util.Deque;
+import java.util.IdentityHashMap;
+import java.util.List;
+import java.util.Map;
 import java.util.Set;
 import java.util.TreeSet;
 import java.util.regex.Matcher;
@@ -80,7 +87,10 @@ public final class FaceTest {
     public static void main(String[] args) throws IOException {
         theClass();
         theMethods();
+        theClassesInside();
         theText();
+        theLengthsOfMethods();
+        theRoom();
         Check.finish("FaceTest");
     }
 
@@ -120,10 +130,111 @@ public final class FaceTest {
         }
     }
 
+    private static void theClassesInside() {
+        List<Class<?>> classes = new ArrayList<>(List.of(PromiseDepot.class.getDeclaredClasses()));
+        classes.add(PromiseDepot.class);
+        Check.due("at most twelve classes", classes.size() <= 12, true);
+        for (Class<?> some : classes) {
+            int fields = 0;
+            for (Field field : some.getDeclaredFields()) {
+                boolean fixed = Modifier.isStatic(field.getModifiers());
+                fields += fixed ? 0 : 1;
+                boolean constant = field.getType().isPrimitive() && Modifier.isFinal(field.getModifiers());
+                Check.due(some.getName() + "." + field.getName() + " is no static state", !fixed || constant, true);
+            }
+            Check.due(some.getName() + " has at most twenty fields", fields <= 20, true);
+            for (Method m : some.getDeclaredMethods()) {
+                Check.due(m + " takes at most seven parameters", m.getParameterCount() <= 7, true);
+                boolean ownName = !Set.of("equals", "hashCode", "toString", "finalize", "clone").contains(m.getName());
+                Check.due(m + " is no method of every object", ownName, true);
+            }
+        }
+    }
+
     private static String describe(Method m) {
         String parameters = Arrays.stream(m.getParameterTypes()).map(Class::getSimpleName).collect(Collectors.joining(","));
         String exceptions = Arrays.stream(m.getExceptionTypes()).map(c -> " " + c.getSimpleName()).collect(Collectors.joining());
         return m.getReturnType().getSimpleName() + " " + m.getName() + "(" + parameters + ")" + exceptions;
+    }
+
+    private static void theLengthsOfMethods() throws IOException {
+        List<String> lines = Files.readAllLines(Path.of("src", "main", "java", "PromiseDepot.java"));
+        Pattern head = Pattern.compile("( {4}| {8})(?!case|default)[A-Za-z].*\\) (?:throws .*)?\\{");
+        int methods = 0;
+        for (int from = 0; from < lines.size(); from++) {
+            Matcher m = head.matcher(lines.get(from));
+            if (m.matches()) {
+                int to = from;
+                while (!lines.get(to).equals(m.group(1) + "}")) {
+                    to++;
+                }
+                methods++;
+                Check.due("lines of " + lines.get(from).strip() + " are sixty at most", to - from < 60, true);
+            }
+        }
+        Check.due("methods are found", methods > FACE.length, true);
+    }
+
+    /** What an object holds stays the same through all its calls, but for the characters of its line. */
+    private static void theRoom() {
+        PromiseDepot depot = new PromiseDepot();
+        int[] before = held(depot);
+        Check.due("at most 600 objects and arrays, but " + before[0], before[0] <= 600, true);
+        Check.due("at most 6000 fields and elements, but " + before[1], before[1] <= 6000, true);
+        Stories.FULL.tell(depot);
+        for (int i = 0; i < 30; i++) {
+            depot.saveSnapshot();
+            depot.writeLot(i % 20);
+            Check.run(depot, "wait 1");
+            Check.thrownBy(() -> Check.run(depot, "wait"));
+        }
+        Check.due("held after many calls", Arrays.toString(held(depot)), Arrays.toString(before));
+    }
+
+    /** The number of objects and arrays that an object holds, itself too, and of their fields and elements. */
+    private static int[] held(Object first) {
+        int[] counts = new int[2];
+        Map<Object, Boolean> seen = new IdentityHashMap<>();
+        Deque<Object> left = new ArrayDeque<>(List.of(first));
+        while (!left.isEmpty()) {
+            Object some = left.remove();
+            if (seen.put(some, true) == null) {
+                counts[0]++;
+                counts[1] += some.getClass().isArray() ? Array.getLength(some) : 0;
+                for (Object part : partsOf(some, counts)) {
+                    left.add(part);
+                }
+            }
+        }
+        return counts;
+    }
+
+    private static List<Object> partsOf(Object some, int[] counts) {
+        List<Object> parts = new ArrayList<>();
+        if (some instanceof Object[] array) {
+            parts.addAll(Arrays.asList(array));
+        }
+        if (!some.getClass().getName().startsWith("PromiseDepot")) {
+            return parts;
+        }
+        for (Field field : some.getClass().getDeclaredFields()) {
+            if (!Modifier.isStatic(field.getModifiers())) {
+                counts[1]++;
+                parts.addAll(valueOf(field, some));
+            }
+        }
+        return parts;
+    }
+
+    private static List<Object> valueOf(Field field, Object some) {
+        try {
+            field.setAccessible(true);
+            Object value = field.get(some);
+            return field.getType().isPrimitive() || value == null ? List.of() : List.of(value);
+        } catch (IllegalAccessException e) {
+            Check.due("access to " + field, false, true);
+            return List.of();
+        }
     }
 
     private static void theText() throws IOException {

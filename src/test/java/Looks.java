@@ -1,3 +1,5 @@
+import java.util.ArrayList;
+import java.util.List;
 import java.util.function.Supplier;
 
 /**
@@ -29,7 +31,7 @@ final class Looks {
 
     /** Everything that changes can change. */
     static String stateOf(Story story) {
-        return parts(story, Looks::shelves, Looks::accounts, Looks::placing, Looks::lots,
+        return parts(story, Looks::shelves, Looks::accounts, Looks::placing, Looks::lots, looks -> looks.pairs(0, 10), looks -> looks.pairs(10, LOTS),
                 looks -> looks.lines(0, 10), looks -> looks.lines(10, LOTS));
     }
 
@@ -59,6 +61,22 @@ final class Looks {
             }
         }
         return gotLines.length == dueLines.length ? "none" : "of lengths";
+    }
+
+    /** Each line that is not alike, as "name: answer before -> answer after"; both have the same names in the same order. */
+    static List<String> changes(String before, String after) {
+        String[] old = before.split("\n");
+        String[] now = after.split("\n");
+        List<String> changes = new ArrayList<>();
+        for (int i = 0; i < Math.min(old.length, now.length); i++) {
+            if (!old[i].equals(now[i])) {
+                changes.add(old[i] + " -> " + now[i].substring(now[i].indexOf(": ") + 2));
+            }
+        }
+        if (old.length != now.length) {
+            changes.add(old.length + " lines -> " + now.length + " lines");
+        }
+        return changes;
     }
 
     private static String parts(Story story, Part... parts) {
@@ -122,11 +140,23 @@ final class Looks {
         }
     }
 
+    /** The shelf for each volume in each zone, written as "1-4:2 5-20:0 21-40:NoSuchElementException". */
     private void placing() {
-        for (int i = 0; i < 120; i++) {
-            int zone = i / 40;
-            int volume = 1 + i % 40;
-            ask("shelfFor " + zone + " " + volume, () -> depot.shelfFor(zone, volume));
+        for (int i = 0; i < 3; i++) {
+            int zone = i;
+            answers.append("shelfFor ").append(zone).append(":");
+            String shelf = answer(() -> depot.shelfFor(zone, 1));
+            int from = 1;
+            for (int j = 2; j <= 40; j++) {
+                int volume = j;
+                String next = answer(() -> depot.shelfFor(zone, volume));
+                if (!next.equals(shelf)) {
+                    answers.append(' ').append(from).append('-').append(j - 1).append(':').append(shelf);
+                    from = j;
+                    shelf = next;
+                }
+            }
+            answers.append(' ').append(from).append("-40:").append(shelf).append('\n');
         }
     }
 
@@ -142,6 +172,23 @@ final class Looks {
             ask("descendants " + i, () -> depot.descendants(lot));
             ask("descendantsByTable " + i, () -> depot.descendantsByTable(lot));
             ask("recallSize " + i, () -> depot.recallSize(lot));
+        }
+    }
+
+    /** The lots that descend from each of some lots, by descendsFrom alone. */
+    private void pairs(int from, int to) {
+        int known = depot.lotCount();
+        for (int i = from; i < to; i++) {
+            StringBuilder found = new StringBuilder();
+            for (int j = 0; j < LOTS; j++) {
+                int ancestor = i;
+                int lot = j;
+                String descends = answer(() -> depot.descendsFrom(lot, ancestor));
+                if (!descends.equals(lot < known && ancestor < known ? "false" : "NoSuchElementException")) {
+                    found.append(' ').append(lot).append(descends.equals("true") ? "" : descends);
+                }
+            }
+            answers.append("descend from ").append(i).append(':').append(found.length() == 0 ? " none" : found).append('\n');
         }
     }
 
